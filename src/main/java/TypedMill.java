@@ -710,7 +710,6 @@ public final class TypedMill {
                 over = true;
                 return NONE;
             }
-            start[blocks] = count;
             length[blocks] = 0;
             blocks++;
             return blocks - 1;
