@@ -832,6 +832,8 @@ public final class TypedMill {
         CodeWriter(Types types, Expressions expressions) {
             this.types = types;
             this.expressions = expressions;
+            environmentType[0] = Types.NUMBER;
+            before[0] = NONE;
         }
 
         /** Whether all of the program's code fitted in. */
@@ -839,9 +841,6 @@ public final class TypedMill {
             code = into;
             code.wipe();
             bodies = 0;
-            environmentType[0] = Types.NUMBER;
-            before[0] = NONE;
-            bindsLast[0] = false;
             environments = 1;
             code.open(code.reserve(), Types.NUMBER, NONE, NONE);
             write(program, 0);

@@ -17,11 +17,11 @@ final class P04MakeTest {
         Expect.due("VARIABLE 20", mill.make(1, 20, 0, 0, 0), 2);
         Expect.due("+, a and z not looked at", mill.make(2, -5, 0, 1, 99), 3);
         Expect.due("-", mill.make(3, 99, 0, 1, -1), 4);
-        Expect.due("*", mill.make(4, 0, 4, 3, 0), 5);
+        Expect.due("*", mill.make(4, 0, 4, 3, 99), 5);
         Expect.due("CHOICE", mill.make(5, 0, 0, 1, 2), 6);
         Expect.due("LAMBDA, y and z not looked at", mill.make(6, function, 6, -1, 99), 7);
         Expect.due("LAMBDA with any FUNCTION", mill.make(6, odd, 0, 0, 0), 8);
-        Expect.due("CALL", mill.make(7, 0, 7, 7, -1), 9);
+        Expect.due("CALL", mill.make(7, -5, 7, 7, -1), 9);
         Expect.due("PAIR", mill.make(8, 0, 0, 0, -1), 10);
         Expect.due("FIRST, y not looked at", mill.make(9, 0, 10, 99, 0), 11);
         Expect.due("SECOND", mill.make(10, 0, 10, -1, -1), 12);

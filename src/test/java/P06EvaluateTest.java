@@ -6,6 +6,8 @@ final class P06EvaluateTest {
         arithmetic();
         choicesAndPairs();
         functions();
+        threeDeep();
+        manyTimes();
         refusals();
         Expect.end();
     }
@@ -67,6 +69,35 @@ final class P06EvaluateTest {
         int square = Build.lambda(mill, plain, Build.times(mill, Build.variable(mill, 0), Build.variable(mill, 0)));
         int higher = Build.call(mill, Build.lambda(mill, twice, applied), square);
         Expect.due("a function as an argument", mill.evaluate(higher), 10000);
+    }
+
+    private static void threeDeep() {
+        TypedMill mill = new TypedMill();
+        int one = Build.functionType(mill, 0, 0);
+        int two = Build.functionType(mill, 0, one);
+        int three = Build.functionType(mill, 0, two);
+        int[] want = {3, -1, 2, -1, 1};
+        for (int a = 0; a < want.length; a += 2) {
+            int inner = Build.lambda(mill, two, Build.lambda(mill, one, Build.variable(mill, a)));
+            int called = Build.call(mill, Build.lambda(mill, three, inner), Build.constant(mill, 1));
+            int again = Build.call(mill, called, Build.constant(mill, 2));
+            int program = Build.call(mill, again, Build.constant(mill, 3));
+            Expect.due("VARIABLE " + a + " in three LAMBDAs", mill.evaluate(program), want[a]);
+        }
+    }
+
+    /** As many calls as an object is used for: none leaves anything behind for the next. */
+    private static void manyTimes() {
+        TypedMill mill = new TypedMill();
+        int x = Build.variable(mill, 0);
+        int square = Build.lambda(mill, Build.functionType(mill, 0, 0), Build.times(mill, x, x));
+        int sum = Build.sum(mill, 9, Build.call(mill, square, Build.constant(mill, 5)));
+        int endless = Build.endless(mill);
+        for (int k = 0; k < 240; k++) {
+            Expect.due("evaluate for the " + k + "th time", mill.evaluate(sum), 225);
+            Expect.refused("endless for the " + k + "th time", IllegalStateException.class,
+                    () -> mill.evaluate(endless));
+        }
     }
 
     private static void refusals() {

@@ -6,6 +6,7 @@ final class P07StepsTest {
     public static void main(String[] args) {
         countsEachKind();
         greatestDepth();
+        depthOfParts();
         mostSteps();
         refusalsLeaveIt();
         Expect.end();
@@ -56,6 +57,37 @@ final class P07StepsTest {
         Expect.refused("counting down from 29", IllegalStateException.class, () -> over.evaluate(deep));
         // For k = 28 there is room for the CHOICE, its x, the CALL, its x and the minus at depth 60.
         Expect.due("steps of it", over.steps(), 3 + 28 * 7 + 5);
+    }
+
+    /**
+     * A function that calls itself for ever in a part of its body. The body is at depth 2, 4, .. 60, and the
+     * CALL in it one deeper; each round takes the body's step, those of parts ahead of the CALL, and the
+     * CALL's own 3.
+     */
+    private static void depthOfParts() {
+        for (int kind = 2; kind <= 5; kind++) {
+            depthOfPart(kind, 0, 3 + 29 * 4 + 1);
+            depthOfPart(kind, 1, 3 + 29 * 5 + 1);
+        }
+        depthOfPart(5, 2, 3 + 29 * 5 + 1);
+        depthOfPart(7, 1, 3 + 29 * 5 + 1);
+        // With a PAIR round the CALL each round is 3 deep: bodies at 2, 5, .. 59, the PAIR behind at 60.
+        depthOfPart(9, 0, 3 + 19 * 5 + 2);
+        depthOfPart(10, 0, 3 + 19 * 5 + 2);
+    }
+
+    private static void depthOfPart(int kind, int place, int want) {
+        TypedMill mill = new TypedMill();
+        int x = Build.variable(mill, 0);
+        int again = Build.call(mill, Build.variable(mill, 1), x);
+        int part = kind >= 9 ? Build.pair(mill, again, again) : again;
+        int other = kind == 7 ? Build.variable(mill, 1) : Build.constant(mill, place == 1 ? 0 : 1);
+        int body = mill.make(kind, 0, place == 0 ? part : other, place == 1 ? part : x, place == 2 ? part : x);
+        int function = Build.lambda(mill, Build.functionType(mill, 0, 0), body);
+        int program = Build.call(mill, function, Build.constant(mill, 1));
+        String what = "an endless part " + place + " of kind " + kind;
+        Expect.refused(what, IllegalStateException.class, () -> mill.evaluate(program));
+        Expect.due("steps of " + what, mill.steps(), want);
     }
 
     private static void mostSteps() {

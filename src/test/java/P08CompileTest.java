@@ -8,6 +8,7 @@ final class P08CompileTest {
         functions();
         callsInArguments();
         oneLambdaInTwoPlaces();
+        functionsInPairs();
         whatWasThereGoes();
         mostInstructions();
         mostBlocks();
@@ -118,6 +119,26 @@ final class P08CompileTest {
         Expect.due("VARIABLE 1, second LOAD", Build.instruction(mill, mill.look(1, 0) + 7), "LOAD 4 4 0");
         Expect.due("VARIABLE 1, last LOAD", Build.instruction(mill, mill.look(1, 0) + 8), "LOAD 2 4 1");
         Expect.due("check()", mill.check(), -1);
+    }
+
+    private static void functionsInPairs() {
+        TypedMill mill = new TypedMill();
+        int two = Build.pairType(mill, 0, 0);
+        int toPair = Build.functionType(mill, 0, two);
+        int one = Build.constant(mill, 1);
+        int x = Build.variable(mill, 0);
+        int lambda = Build.lambda(mill, toPair, Build.pair(mill, x, x));
+        int ahead = Build.call(mill, Build.first(mill, Build.pair(mill, lambda, one)), one);
+        Expect.due("a function that is first", mill.compile(Build.first(mill, ahead)), 18 + 2 + 17);
+        Expect.due("behind its CALL", mill.look(2, 3), 3);
+        Expect.due("what waits for it", Build.instruction(mill, 14), "WRAP 3 4 4");
+        Expect.due("check()", mill.check(), -1);
+        int last = Build.call(mill, Build.second(mill, Build.pair(mill, one, lambda)), one);
+        Expect.due("a function that is second", mill.compile(Build.second(mill, last)), 18 + 2 + 17);
+        Expect.due("behind its CALL", mill.look(2, 3), 3);
+        Expect.due("its body", Build.instruction(mill, mill.look(1, 0)), "NAME 4 1 0");
+        Expect.due("check()", mill.check(), -1);
+        Expect.due("no third body", mill.look(3, 0), -1);
     }
 
     private static void whatWasThereGoes() {

@@ -167,6 +167,13 @@ final class P12CheckTest {
             Build.code(mill, i(SET, 2, 1), i(HALT));
             due("BRANCH to one that asks " + k, want[k]);
         }
+        int[] third = {waits, 0};
+        for (int k = 0; k < 2; k++) {
+            second(0, pair, waits, i(BRANCH, 1, 2), i(JUMP, 2));
+            mill.block(-1, -1, third[k]);
+            Build.code(mill, i(SET, 2, 1), i(HALT));
+            due("JUMP and BRANCH to one that asks " + third[k] + " of 3", k == 0 ? -1 : 1000);
+        }
         second(0, pair, -1, i(BRANCH, 2, 0), i(JUMP, 0));
         due("BRANCH by a PAIR", 1000);
         second(0, pair, -1, i(BRANCH, 5, 0), i(JUMP, 0));
