@@ -91,9 +91,19 @@ public final class TypedMill {
         if (typeOf(expression) != Types.NUMBER) {
             throw new IllegalArgumentException();
         }
-        if (!translate(expression)) {
+        int kept = types.count;
+        boolean fits = writer.translate(expression, spare);
+        if (fits) {
+            // Compiled code cannot be changed, so one verdict lasts and its types need not be kept.
+            spare.verdict = checker.verdictOn(spare);
+        }
+        types.forgetFrom(kept);
+        if (!fits) {
             throw new UnsupportedOperationException();
         }
+        Code old = code;
+        code = spare;
+        spare = old;
         machine.begin(code);
         return code.count;
     }
@@ -150,25 +160,10 @@ public final class TypedMill {
     }
 
     private int typeOf(int expression) {
-        int before = types.count;
+        int kept = types.count;
         int answer = typing.typeWhereNothingIsBound(expression);
-        types.forgetFrom(before);
+        types.forgetFrom(kept);
         return answer;
-    }
-
-    /** Whether the program fits; only then does its code become the code. */
-    private boolean translate(int program) {
-        int before = types.count;
-        boolean fits = writer.translate(program, spare);
-        if (fits) {
-            // Compiled code cannot be changed, so one verdict lasts and its types need not be kept.
-            spare.verdict = checker.verdictOn(spare);
-            Code old = code;
-            code = spare;
-            spare = old;
-        }
-        types.forgetFrom(before);
-        return fits;
     }
 
     /**
@@ -207,7 +202,7 @@ public final class TypedMill {
 
         Types() {
             Arrays.fill(newest, NONE);
-            append(NUMBER, NONE, NONE, NONE);
+            find(NUMBER, NONE, NONE, NONE);
         }
 
         boolean has(int type) {
@@ -235,19 +230,7 @@ public final class TypedMill {
         }
 
         int sizeOf(int type) {
-            return has(type) ? sizes[type] : 0;
-        }
-
-        int pair(int one, int two) {
-            return find(PAIR, one, two, NONE);
-        }
-
-        int returnOf(int type) {
-            return find(RETURN, type, NONE, NONE);
-        }
-
-        int code(int one, int two, int three) {
-            return find(CODE, one, two, three);
+            return type >= 0 && type < count ? sizes[type] : 0;
         }
 
         /** The own number as a part makes it differ from every other one. */
@@ -257,12 +240,24 @@ public final class TypedMill {
 
         /** A type for the user, within the user's limits. */
         int keep(int k, int one, int two, int three) {
-            int there = search(k, one, two, three);
-            if (there != NONE) {
+            boolean fits = 1 + sizeOf(one) + sizeOf(two) + sizeOf(three) <= GREATEST_SIZE;
+            if (fits && count < MOST_KEPT) {
+                return find(k, one, two, three);
+            }
+            return search(bucket(k, one, two, three), k, one, two, three);
+        }
+
+        /** The type with these parts, which is made now if it is not there yet. */
+        int find(int k, int one, int two, int three) {
+            int bucket = bucket(k, one, two, three);
+            int there = search(bucket, k, one, two, three);
+            if (there != NONE || count == ROOM) {
                 return there;
             }
-            boolean fits = count < MOST_KEPT && measure(k, one, two, three) <= GREATEST_SIZE;
-            return fits ? append(k, one, two, three) : NONE;
+            // This may wrap for types that only a check makes: nobody is told the sizes of those.
+            sizes[count] = 1 + sizeOf(one) + sizeOf(two) + sizeOf(three);
+            append(bucket, k, one, two, three);
+            return count - 1;
         }
 
         /** The newest go first, so that each is the newest of its bucket when it goes. */
@@ -273,42 +268,25 @@ public final class TypedMill {
             }
         }
 
-        private int find(int k, int one, int two, int three) {
-            int there = search(k, one, two, three);
-            return there != NONE ? there : append(k, one, two, three);
-        }
-
-        private int search(int k, int one, int two, int three) {
-            int at = newest[bucket(k, one, two, three)];
-            while (at != NONE && !stands(at, k, one, two, three)) {
+        private int search(int bucket, int k, int one, int two, int three) {
+            int at = newest[bucket];
+            for (int seen = 0; seen < count && at != NONE; seen++) {
+                if (kind[at] == k && first[at] == one && second[at] == two && third[at] == three) {
+                    return at;
+                }
                 at = older[at];
             }
-            return at;
+            return NONE;
         }
 
-        private boolean stands(int at, int k, int one, int two, int three) {
-            return kind[at] == k && first[at] == one && second[at] == two && third[at] == three;
-        }
-
-        private int append(int k, int one, int two, int three) {
-            if (count == ROOM) {
-                return NONE;
-            }
+        private void append(int bucket, int k, int one, int two, int three) {
             kind[count] = k;
             first[count] = one;
             second[count] = two;
             third[count] = three;
-            sizes[count] = measure(k, one, two, three);
-            int at = bucket(k, one, two, three);
-            older[count] = newest[at];
-            newest[at] = count;
+            older[count] = newest[bucket];
+            newest[bucket] = count;
             count++;
-            return count - 1;
-        }
-
-        /** May wrap for types that only a check makes: nobody is told the sizes of those. */
-        private int measure(int k, int one, int two, int three) {
-            return k == HIDDEN ? 1 : 1 + sizeOf(one) + sizeOf(two) + sizeOf(three);
         }
 
         private static int bucket(int k, int one, int two, int three) {
@@ -463,7 +441,7 @@ public final class TypedMill {
                 return NONE;
             }
             int two = find(expressions.y[e]);
-            return two == NONE ? NONE : types.pair(one, two);
+            return two == NONE ? NONE : types.find(Types.PAIR, one, two, NONE);
         }
 
         private int ofPart(int e) {
@@ -882,7 +860,7 @@ public final class TypedMill {
             int at = environment;
             int left = a;
             int behind = 0;
-            while (at > 0 && (left > 0 || !bindsLast[at])) {
+            while (behind < environments && at > 0 && (left > 0 || !bindsLast[at])) {
                 left -= bindsLast[at] ? 1 : 0;
                 at = before[at];
                 behind++;
@@ -901,11 +879,13 @@ public final class TypedMill {
 
         private int writeTwo(int e, int environment) {
             int left = write(expressions.x[e], environment);
-            int right = write(expressions.y[e], push(environment, left));
+            code.put(Code.NEW, 1, 1, 2);
+            int right = write(expressions.y[e], extend(environment, left, false));
             code.put(Code.LOAD, 4, 1, 1);
             code.put(operationFor(expressions.kind[e]), 2, 4, 2);
             code.put(Code.LOAD, 1, 1, 0);
-            return expressions.kind[e] == Expressions.PAIR ? types.pair(left, right) : Types.NUMBER;
+            boolean pairs = expressions.kind[e] == Expressions.PAIR;
+            return pairs ? types.find(Types.PAIR, left, right, NONE) : Types.NUMBER;
         }
 
         private static int operationFor(int kind) {
@@ -950,23 +930,20 @@ public final class TypedMill {
                 bodyBlock[bodies] = body;
                 bodies++;
             }
-            writeFunction(2, body, expressions.a[e]);
-            return expressions.a[e];
-        }
-
-        /** A function is its body's block and the environment, wrapped. */
-        private void writeFunction(int into, int body, int type) {
             code.put(Code.NAME, 4, body, 0);
             code.put(Code.NEW, 4, 4, 1);
-            code.put(Code.WRAP, into, 4, type);
+            code.put(Code.WRAP, 2, 4, expressions.a[e]);
+            return expressions.a[e];
         }
 
         private void writeBody(int lambda, int environment, int block) {
             int function = expressions.a[lambda];
             int given = types.firstOf(function);
-            int waiting = types.returnOf(types.secondOf(function));
+            int waiting = types.find(Types.RETURN, types.secondOf(function), NONE, NONE);
             code.open(block, environmentType[environment], given, waiting);
-            writeFunction(4, block, function);
+            code.put(Code.NAME, 4, block, 0);
+            code.put(Code.NEW, 4, 4, 1);
+            code.put(Code.WRAP, 4, 4, function);
             code.put(Code.NEW, 1, 1, 4);
             int itself = extend(environment, function, true);
             code.put(Code.NEW, 1, 1, 3);
@@ -982,12 +959,13 @@ public final class TypedMill {
         private int writeCall(int e, int environment) {
             int function = write(expressions.x[e], environment);
             int result = types.secondOf(function);
-            write(expressions.y[e], push(environment, function));
+            code.put(Code.NEW, 1, 1, 2);
+            write(expressions.y[e], extend(environment, function, false));
             int behind = code.reserve();
             code.put(Code.NAME, 4, behind, 0);
             code.put(Code.LOAD, 5, 1, 0);
             code.put(Code.NEW, 4, 4, 5);
-            code.put(Code.WRAP, 3, 4, types.returnOf(result));
+            code.put(Code.WRAP, 3, 4, types.find(Types.RETURN, result, NONE, NONE));
             code.put(Code.LOAD, 4, 1, 1);
             code.put(Code.OPEN, 5, 1, 4);
             code.put(Code.GO, 5, 0, 0);
@@ -995,16 +973,12 @@ public final class TypedMill {
             return result;
         }
 
-        private int push(int environment, int type) {
-            code.put(Code.NEW, 1, 1, 2);
-            return extend(environment, type, false);
-        }
-
+        /** The environment with one more pair, of a value of this type. */
         private int extend(int environment, int type, boolean binds) {
             if (code.over || environments == MOST_ENVIRONMENTS) {
                 return environment;
             }
-            environmentType[environments] = types.pair(environmentType[environment], type);
+            environmentType[environments] = types.find(Types.PAIR, environmentType[environment], type, NONE);
             before[environments] = environment;
             bindsLast[environments] = binds;
             environments++;
@@ -1082,7 +1056,8 @@ public final class TypedMill {
                 case Code.MUL:
                     return held[b] == Types.NUMBER && held[c] == Types.NUMBER && gets(a, Types.NUMBER);
                 case Code.NEW:
-                    return held[b] != NONE && held[c] != NONE && gets(a, types.pair(held[b], held[c]));
+                    return held[b] != NONE && held[c] != NONE
+                            && gets(a, types.find(Types.PAIR, held[b], held[c], NONE));
                 case Code.LOAD:
                     return types.kindOf(held[b]) == Types.PAIR
                             && gets(a, c == 0 ? types.firstOf(held[b]) : types.secondOf(held[b]));
@@ -1109,7 +1084,8 @@ public final class TypedMill {
         }
 
         private int typeOfBlock(int block) {
-            return types.code(code.askedType(block, 1), code.askedType(block, 2), code.askedType(block, 3));
+            return types.find(Types.CODE, code.askedType(block, 1), code.askedType(block, 2),
+                    code.askedType(block, 3));
         }
 
         /** What a wrapped pair's block asks of register 2: the argument, or the value waited for. */
@@ -1142,8 +1118,8 @@ public final class TypedMill {
                 return false;
             }
             int hidden = types.hidden();
-            int third = function ? types.returnOf(types.secondOf(wrapped)) : NONE;
-            return gets(a, types.code(hidden, taken(wrapped), third)) && gets(b, hidden);
+            int third = function ? types.find(Types.RETURN, types.secondOf(wrapped), NONE, NONE) : NONE;
+            return gets(a, types.find(Types.CODE, hidden, taken(wrapped), third)) && gets(b, hidden);
         }
 
         private boolean canEnter(int block) {

@@ -19,22 +19,14 @@ final class Both {
     }
 
     private int same(String call, IntSupplier program, IntSupplier plain) {
-        String got = answer(program);
-        String want = answer(plain);
+        String got = Expect.answer(program);
+        String want = Expect.answer(plain);
         calls.add(call + " " + got);
         if (!got.equals(want) && !parted) {
             parted = true;
             Expect.due(name + ": " + calls + "\n" + call, got, want);
         }
         return want.startsWith("throws") ? -1 : Integer.parseInt(want);
-    }
-
-    private static String answer(IntSupplier call) {
-        try {
-            return Integer.toString(call.getAsInt());
-        } catch (RuntimeException thrown) {
-            return "throws." + thrown.getClass().getSimpleName();
-        }
     }
 
     int type(int kind, int a, int b, int c) {

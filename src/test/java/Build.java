@@ -74,6 +74,14 @@ final class Build {
         return call(mill, lambda(mill, functionType(mill, NUMBER, NUMBER), again), constant(mill, 0));
     }
 
+    /** Counts down to 0 by a function that calls itself, and gives what the body's last expression does. */
+    static int countDown(TypedMill mill, int from, int last) {
+        int n = variable(mill, 0);
+        int again = call(mill, variable(mill, 1), minus(mill, n, constant(mill, 1)));
+        int function = lambda(mill, functionType(mill, NUMBER, NUMBER), choice(mill, n, last, again));
+        return call(mill, function, constant(mill, from));
+    }
+
     /** A sum of so many ones; its code has 5 * leaves - 4 instructions. */
     static int sum(TypedMill mill, int leaves, int one) {
         if (leaves == 1) {

@@ -1,3 +1,5 @@
+import java.util.function.IntSupplier;
+
 /** Compares answers with those that are due, and ends a test with exit code 1 if one differed. */
 final class Expect {
     private static int wrong;
@@ -37,6 +39,15 @@ final class Expect {
             if (thrown.getClass() != want) {
                 report(call + " threw " + thrown + ", due is " + want.getSimpleName());
             }
+        }
+    }
+
+    /** What a call answers, or the exception that it throws, as a text. */
+    static String answer(IntSupplier call) {
+        try {
+            return Integer.toString(call.getAsInt());
+        } catch (RuntimeException thrown) {
+            return "throws." + thrown.getClass().getSimpleName();
         }
     }
 

@@ -33,13 +33,8 @@ final class P07StepsTest {
         steps(mill, "CALL", Build.call(mill, function, sum), 6);
     }
 
-    /** Counts down to 0 by a function that calls itself. */
     private static int countDown(TypedMill mill, int from) {
-        int n = Build.variable(mill, 0);
-        int again = Build.call(mill, Build.variable(mill, 1), Build.minus(mill, n, Build.constant(mill, 1)));
-        int body = Build.choice(mill, n, n, again);
-        int function = Build.lambda(mill, Build.functionType(mill, 0, 0), body);
-        return Build.call(mill, function, Build.constant(mill, from));
+        return Build.countDown(mill, from, Build.variable(mill, 0));
     }
 
     /**
@@ -92,9 +87,13 @@ final class P07StepsTest {
 
     private static void mostSteps() {
         TypedMill fits = new TypedMill();
-        steps(fits, "one less than the most", manySteps(fits, 11, 21, 1), 499);
+        int short499 = manySteps(fits, 11, 21, 1);
+        Expect.due("what 499 steps give", fits.evaluate(short499), 11 * 21 + 1);
+        steps(fits, "one less than the most", short499, 499);
         TypedMill edge = new TypedMill();
-        steps(edge, "exactly the most", manySteps(edge, 12, 19, 3), 500);
+        int most = manySteps(edge, 12, 19, 3);
+        Expect.due("what 500 steps give", edge.evaluate(most), 12 * 19 + 3);
+        steps(edge, "exactly the most", most, 500);
         tooMany(11, 21, 2);
         tooMany(12, 19, 4);
         tooMany(16, 32, 0);
