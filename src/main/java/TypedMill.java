@@ -457,7 +457,7 @@ public final class TypedMill {
     private static final class Evaluator {
         private static final int MOST_STEPS = 500;
         private static final int GREATEST_DEPTH = 60;
-        /** Ahead of each body stand three steps of its own: the CALL, its x and its y. */
+        /** A CALL has three steps right below it, x, y and the body: ahead of the k-th body stand 3 k. */
         private static final int MOST_FRAMES = MOST_STEPS / 3;
 
         private static final int A_NUMBER = 0;

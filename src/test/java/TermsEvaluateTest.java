@@ -10,6 +10,7 @@ final class TermsEvaluateTest {
         choosing();
         greatestDepth();
         depthsBelow();
+        mostBodies();
         stepsOfTheLatest();
         overChangesStepsAlone();
         fiveHundredAndTwelveCalls();
@@ -155,6 +156,20 @@ final class TermsEvaluateTest {
         count(what + " at 61", 28, 0, last, 5 + 7 * 28 + done, OVER);
     }
 
+    /**
+     * A function that calls itself for ever, with what two others give in turn: 9 steps and 3 bodies each time,
+     * and one deeper. The steps are over ahead of the depth, at the 166th body.
+     */
+    private static void mostBodies() {
+        TypedMill mill = new TypedMill();
+        int same = same(mill);
+        int twice = Build.call(mill, same, Build.call(mill, same, Build.variable(mill, 0)));
+        int again = lambda(mill, Build.call(mill, Build.variable(mill, 1), twice));
+        int program = Build.call(mill, again, one(mill));
+        Expect.due("166 bodies", Expect.answer(() -> mill.evaluate(program)), OVER);
+        Expect.due("steps of it", mill.steps(), 500);
+    }
+
     private static void stepsOfTheLatest() {
         TypedMill mill = new TypedMill();
         int sum = sum(mill);
@@ -169,6 +184,9 @@ final class TermsEvaluateTest {
         Expect.due("its steps", mill.steps(), 59 * 3 + 1);
         Expect.due("no expression", Expect.answer(() -> mill.evaluate(-1)), "throws.NoSuchElementException");
         Expect.due("no program", Expect.answer(() -> mill.evaluate(pair)), "throws.IllegalArgumentException");
+        int both = Build.pair(mill, sum, endless);
+        Expect.due("no program, and endless", Expect.answer(() -> mill.evaluate(both)),
+                "throws.IllegalArgumentException");
         Expect.due("steps of the one that was over", mill.steps(), 59 * 3 + 1);
         Expect.due("one that is not over", mill.evaluate(sum), 2);
         Expect.due("its steps", mill.steps(), 3);
