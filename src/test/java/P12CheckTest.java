@@ -335,12 +335,14 @@ final class P12CheckTest {
         }
         Build.code(mill, i(SET, 2, 1), i(HALT));
         due("a type of size 2 to the 298th", -1);
+        begin();
         second(function, 0, waits);
         for (int k = 0; k < 297; k++) {
             mill.add(OPEN, 5, 4, 1);
         }
         Build.code(mill, i(GO, 5));
         due("297 OPENs, the FUNCTION in 1", 1297);
+        begin();
         second(function, 0, waits);
         for (int k = 0; k < 296; k++) {
             mill.add(OPEN, 5, 4, 1);

@@ -225,7 +225,8 @@ final class TermsCodeTest {
         int one = Build.constant(mill, 1);
         int pair = Build.pair(mill, one, one);
         mill.block(-1, -1, -1);
-        Expect.due("a compile() that throws", Expect.answer(() -> mill.compile(pair)), "throws.IllegalArgumentException");
+        Expect.due("a compile() that throws", Expect.answer(() -> mill.compile(pair)),
+                "throws.IllegalArgumentException");
         Expect.due("code by hand stays so", mill.block(-1, -1, -1), 1);
         Expect.due("and takes instructions", mill.add(HALT, 0, 0, 0), 1);
         mill.compile(one);

@@ -55,7 +55,8 @@ final class TermsMachineTest {
     private static String machine(int state, int register, int kind, int value) {
         StringBuilder text = new StringBuilder().append(state).append(':');
         for (int k = 1; k <= 5; k++) {
-            text.append(' ').append(k == register ? kind : KIND[k]).append('/').append(k == register ? value : VALUE[k]);
+            text.append(' ').append(k == register ? kind : KIND[k]);
+            text.append('/').append(k == register ? value : VALUE[k]);
         }
         return text.toString();
     }
@@ -316,7 +317,8 @@ final class TermsMachineTest {
     private static void atTheMostOthersGoOn() {
         TypedMill mill = withPairs(400);
         int waits = Build.returnType(mill, 0);
-        Build.code(mill, i(LOAD, 5, 2, 1), i(1, 5, 5, 5), i(NAME, 1, 1), i(WRAP, 3, 2, waits), i(SET, 4, 7), i(JUMP, 3));
+        Build.code(mill, i(LOAD, 5, 2, 1), i(1, 5, 5, 5), i(NAME, 1, 1), i(WRAP, 3, 2, waits), i(SET, 4, 7),
+                i(JUMP, 3));
         mill.block(-1, -1, -1);
         Build.code(mill, i(BRANCH, 4, 4));
         mill.block(-1, -1, -1);
