@@ -229,6 +229,7 @@ public final class TypedMill {
             return has(type) ? third[type] : NONE;
         }
 
+        /** No call of has() here: this ends the longest chain of calls, which may go eight deep. */
         int sizeOf(int type) {
             return type >= 0 && type < count ? sizes[type] : 0;
         }
