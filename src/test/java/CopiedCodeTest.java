@@ -4,7 +4,7 @@ import java.util.List;
 /**
  * Compiled code is written once more by hand: it is as right, and does the same. Then each of its
  * instructions, and all that its blocks ask, is changed in each small way: the model agrees on check() and
- * on the machine, and what check() calls right never gets stuck.
+ * on the machine, and what check() calls right does not get stuck in 1000 instructions.
  */
 final class CopiedCodeTest {
     private static final int SET = 0;
